@@ -474,6 +474,12 @@ public final class OnlyTwoEnemies {
         }
     }
 
+    private static void copy(int[] from, int[] to) {
+        if (from != null && to != null) {
+            System.arraycopy(from, 0, to, 0, Math.min(from.length, to.length));
+        }
+    }
+
     private static int bit(int bits, int place) {
         return place >= 0 && place < 31 ? bits >> place & 1 : 0;
     }
@@ -555,12 +561,12 @@ public final class OnlyTwoEnemies {
             if (other == null) {
                 return;
             }
-            System.arraycopy(other.kinds, 0, kinds, 0, KEEPERS);
-            System.arraycopy(other.figures, 0, figures, 0, KEEPERS);
-            System.arraycopy(other.towns, 0, towns, 0, KEEPERS);
-            System.arraycopy(other.hatreds, 0, hatreds, 0, KEEPERS * KEEPERS);
-            System.arraycopy(other.depths, 0, depths, 0, LETTERS);
-            System.arraycopy(other.letterTowns, 0, letterTowns, 0, LETTERS);
+            copy(other.kinds, kinds);
+            copy(other.figures, figures);
+            copy(other.towns, towns);
+            copy(other.hatreds, hatreds);
+            copy(other.depths, depths);
+            copy(other.letterTowns, letterTowns);
             Arrays.fill(openers, NONE);
             keepers = other.keepers;
             letters = other.letters;
@@ -598,6 +604,10 @@ public final class OnlyTwoEnemies {
 
         boolean areTwo(int one, int other) {
             return hasKeeper(one) && hasKeeper(other) && one != other;
+        }
+
+        boolean areBothIn(int town, int one, int other) {
+            return at(towns, one) == town && at(towns, other) == town;
         }
 
         boolean hasKeeperRoom() {
@@ -713,9 +723,8 @@ public final class OnlyTwoEnemies {
             int least = MOST_HATE + 1;
             for (int one = 0; one < keepers; one++) {
                 for (int other = one + 1; other < keepers; other++) {
-                    int hatred = hateOf(one, other);
-                    boolean there = at(towns, one) == town && at(towns, other) == town;
-                    if (there && hatred >= depth && hatred < least) {
+                    int hatred = areBothIn(town, one, other) ? hateOf(one, other) : NONE;
+                    if (hatred >= depth && hatred < least) {
                         best = twoName(one, other);
                         least = hatred;
                     }
@@ -1017,7 +1026,7 @@ public final class OnlyTwoEnemies {
             int most = NONE;
             for (int one = 0; one < now.keeperCount(); one++) {
                 for (int other = one + 1; other < now.keeperCount(); other++) {
-                    if (now.townOf(one) == town && now.townOf(other) == town) {
+                    if (now.areBothIn(town, one, other)) {
                         most = Math.max(most, now.hateOf(one, other));
                     }
                 }
@@ -1036,7 +1045,6 @@ public final class OnlyTwoEnemies {
         }
 
         int mostTwos(int v) {
-            put(twosAmong, 0, 0);
             for (int last = 0; last < now.keeperCount(); last++) {
                 for (int others = 0; others < 1 << last; others++) {
                     put(twosAmong, others | 1 << last, mostTwosWith(last, others, v));

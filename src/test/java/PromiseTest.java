@@ -707,6 +707,10 @@ public final class PromiseTest {
         x.seals(0);
         due(x.places(0, 1, 2, 1, 0), 3);
         due(x.places(0, 1, 2, 1, 1), 2);
+        OnlyTwoEnemies y = told("k001;k000;k000;k002;l102;h1309;h2309;h0109;h0209;h1209;");
+        due(y.places(0, 1, 2, 1, 0), 200);
+        due(y.places(1, 0, 2, 1, 0), 20);
+        due(y.places(1, 2, 0, 1, 0), 2);
         due(x.places(0, 1, 1, 1, 0), -1);
         due(x.places(0, 1, 0, 1, 0), -1);
         due(x.places(1, 1, 0, 1, 0), -1);
@@ -971,6 +975,11 @@ public final class PromiseTest {
         x.hates(0, 1, 10);
         fraction(x.meetings(0, 1, 0, 5, 2, 0), x.meetings(0, 1, 0, 5, 2, 1), 0, 1);
         fraction(x.meetings(0, 1, 1, 1, 3, 0), x.meetings(0, 1, 1, 1, 3, 1), 2, 3);
+        x.hates(0, 1, 26);
+        fraction(x.meetings(0, 1, 0, 1, 3, 0), x.meetings(0, 1, 0, 1, 3, 1), 1, 1);
+        x.hates(0, 1, 25);
+        fraction(x.meetings(0, 1, 0, 1, 3, 0), x.meetings(0, 1, 0, 1, 3, 1), 2, 3);
+        x.hates(0, 1, 10);
         OnlyTwoEnemies mild = told("k040;k130;h0105;l000;");
         fraction(mild.meetings(0, 1, 0, 1, 3, 0), mild.meetings(0, 1, 0, 1, 3, 1), 1, 1);
         due(x.meetings(0, 0, 0, -1, 1, 2), LONG + 1);
@@ -997,6 +1006,13 @@ public final class PromiseTest {
         x.goes(1, 3);
         due(x.fullest(0), 3);
         due(x.fullest(1), 3);
+        OnlyTwoEnemies y = told("k001;k001;k002;k003;");
+        due(y.fullest(0), 1);
+        due(y.fullest(1), 2);
+        y.goes(2, 0);
+        y.goes(3, 0);
+        due(y.fullest(0), 0);
+        due(y.fullest(1), 2);
         due(x.fullest(2), -2);
         due(x.fullest(-1), -2);
         due(x.count(12), 2);
@@ -1106,6 +1122,10 @@ public final class PromiseTest {
         more.goes(3, 2);
         more.hates(2, 3, 0);
         due(more.swap(1), 12);
+        OnlyTwoEnemies far = told("k000;k000;k000;k001;h0100;h0200;h1200;h0300;h1300;h2300;l100;");
+        due(far.swap(1), -9);
+        far.hates(0, 3, 12);
+        due(far.swap(1), 13);
     }
 
     private static void apart() {
