@@ -1326,13 +1326,14 @@ public final class OnlyTwoEnemies {
             return ahead.passWeeks(n);
         }
 
+        /** Fewer keepers may open more than all do: who opens more opens as many, too. */
         int fewestKept(int n) {
             int all = (1 << now.keeperCount()) - 1;
             int due = openAsAllIs(n);
             int best = all;
             for (int keepers = 0; keepers < all; keepers++) {
                 boolean fewer = Integer.bitCount(keepers) < Integer.bitCount(best);
-                if (fewer && openKept(keepers, n) == due) {
+                if (fewer && openKept(keepers, n) >= due) {
                     best = keepers;
                 }
             }

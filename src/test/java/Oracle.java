@@ -534,7 +534,7 @@ public final class Oracle {
         for (int many = 0; many <= w.men.size(); many++) {
             for (int kept = 0; kept < 1 << w.men.size(); kept++) {
                 int bits = kept;
-                if (Integer.bitCount(kept) == many && due == openIf(n, t -> banish(t, bits))) {
+                if (Integer.bitCount(kept) == many && openIf(n, t -> banish(t, bits)) >= due) {
                     return what == 0 ? kept : payOf(kept);
                 }
             }

@@ -30,6 +30,7 @@ public final class PromiseTest {
         send();
         places();
         fewest();
+        fewestOpenMore();
         pay();
         deepest();
         pairs();
@@ -749,6 +750,48 @@ public final class PromiseTest {
         due(y.fewest(1, 1), 1 + 2 + 2);
         OnlyTwoEnemies z = told("k000;k500;k100;k100;h0199;h0250;h0350;h1250;h1350;h2320;l150;l150;");
         due(z.fewest(1, 0), 3);
+    }
+
+    /** Whose hatreds and letters are such that some of them open more than all. */
+    private static OnlyTwoEnemies brothers(int many, int[] hates, int... depths) {
+        OnlyTwoEnemies x = new OnlyTwoEnemies();
+        for (int i = 0; i < many; i++) {
+            x.keeper(1, i, 0);
+        }
+        int place = 0;
+        for (int one = 0; one < many; one++) {
+            for (int other = one + 1; other < many; other++) {
+                x.hates(one, other, hates[place++]);
+            }
+        }
+        for (int depth : depths) {
+            x.letter(0, depth);
+        }
+        return x;
+    }
+
+    private static void fewestOpenMore() {
+        promise = 22;
+        // All open 4 of 5; of those of three only 0, 1, 2 open as many: all 5.
+        OnlyTwoEnemies x = brothers(4, new int[] {3, 6, 4, 7, 0, 0}, 4, 1, 6, 2, 3);
+        due(x.fewest(1, 0), 7);
+        due(x.fewest(1, 1), 2 + 4 + 6);
+        due(x.fewest(60, 0), 7);
+        due(x.fewest(0, 0), 0);
+        due(x.then(1, 0), 15);
+        untouched(x, 4, 5, 20, 0);
+        // All open 5 of 6; 0, 2, 3, 4 all of them, others of four fewer than 5.
+        OnlyTwoEnemies y = brothers(5, new int[] {0, 1, 7, 4, 0, 6, 1, 0, 8, 4}, 6, 2, 6, 3, 4, 4);
+        due(y.fewest(1, 0), 29);
+        due(y.fewest(1, 1), 2 + 6 + 8 + 10);
+        // All open 5 of 6; 0, 1, 2, 3 all of them, and behind these 0, 2, 3, 4 as many as all.
+        OnlyTwoEnemies more = brothers(5, new int[] {14, 7, 12, 13, 0, 7, 1, 15, 0, 8}, 13, 9, 13, 5, 10, 11);
+        due(more.fewest(1, 0), 15);
+        due(more.fewest(1, 1), 2 + 4 + 6 + 8);
+        // The same with other numbers: first 0, 2, 3, 4 as many as all, and behind these 1, 2, 3, 4 all 6.
+        OnlyTwoEnemies same = brothers(5, new int[] {1, 13, 0, 8, 14, 0, 7, 7, 12, 15}, 13, 9, 13, 5, 10, 11);
+        due(same.fewest(1, 0), 29);
+        due(same.fewest(1, 1), 2 + 6 + 8 + 10);
     }
 
     private static void pay() {

@@ -2,6 +2,7 @@ import java.lang.reflect.InvocationTargetException;
 import java.lang.reflect.Method;
 import java.lang.reflect.Modifier;
 import java.util.ArrayList;
+import java.util.Collections;
 import java.util.Comparator;
 import java.util.HashMap;
 import java.util.List;
@@ -103,7 +104,9 @@ public final class SameAsOracleTest {
     }
 
     private int play(List<Method> face) throws Exception {
-        if (run % 3 != 0) {
+        if (run % 5 == 0) {
+            quarrel();
+        } else if (run % 3 != 0) {
             settle();
         }
         while (calls.size() < CALLS - 90 && wrong == 0) {
@@ -126,6 +129,24 @@ public final class SameAsOracleTest {
         for (int i = random.nextInt(12); i > 0; i--) {
             call("hates", random.nextInt(keepers), random.nextInt(keepers), random.nextInt(50));
         }
+    }
+
+    /** A rare country, in which some of all open more letters than all, its keepers in any order. */
+    private void quarrel() throws Exception {
+        int[][] hates = {{0, 14, 7, 12, 13}, {14, 0, 0, 7, 1}, {7, 0, 0, 15, 0}, {12, 7, 15, 0, 8}, {13, 1, 0, 8, 0}};
+        List<Integer> order = new ArrayList<>(List.of(0, 1, 2, 3, 4));
+        Collections.shuffle(order, random);
+        for (int i = 0; i < order.size(); i++) {
+            call("keeper", 1, random.nextInt(10), 0);
+            for (int j = 0; j < i; j++) {
+                call("hates", i, j, hates[order.get(i)][order.get(j)]);
+            }
+        }
+        for (int depth : new int[] {13, 9, 13, 5, 10, 11}) {
+            call("letter", 0, depth);
+        }
+        call("fewest", random.nextInt(60) + 1, 0);
+        call("fewest", random.nextInt(60) + 1, 1);
     }
 
     private void step(List<Method> face) throws Exception {
