@@ -105,8 +105,11 @@ abstract class Edges {
 
     /** The week that is told, from a week before it, by calls of 60 at most. */
     static void until(OnlyTwoEnemies x, int week) {
-        while (x.count(2) < week) {
-            x.weeks(Math.min(60, week - x.count(2)));
+        for (int left = week - x.count(2); left > 0; left -= 60) {
+            x.weeks(Math.min(60, left));
+        }
+        if (x.count(2) != week) {
+            fault("it is week " + x.count(2) + ", due is " + week);
         }
     }
 

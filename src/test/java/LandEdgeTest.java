@@ -113,17 +113,23 @@ public final class LandEdgeTest extends Edges {
         due(x.feed('w'), -6);
         due(x.land(), 24);
         due(x.count(2), 24);
-        OnlyTwoEnemies y = told("k000;k000;");
-        due(tell(y, times(16, "h0101;")), 16);
-        due(y.hate(0, 1), 1);
-        due(tell(y, times(15, "h0102;") + "h01034"), -1095);
-        due(tell(y, times(15, "h0102;") + "w01;w0"), -1096);
-        due(tell(y, times(15, "h0102;") + "w01;s0"), -1096);
-        due(tell(y, times(15, "h0102;") + "w01;g00"), -1096);
-        due(tell(y, times(15, "h0102;") + "h0205;"), -2090);
-        due(y.hate(0, 1), 1);
-        due(tell(y, times(15, "h0102;") + "h0103;"), 16);
-        due(y.hate(0, 1), 3);
+        ninetySixTold("h0103;", 16, 3);
+        ninetySixTold("h01034", -1095, 20);
+        ninetySixTold("h0203;", -2090, 20);
+        ninetySixTold("w01;w0", -1096, 20);
+        ninetySixTold("w01;s0", -1096, 20);
+        ninetySixTold("w01;g0", -1096, 20);
+        ninetySixTold("w01;w;", -1095, 20);
+    }
+
+    /** Fifteen right STATEMENTS of six letters, and six letters more. */
+    private static void ninetySixTold(String last, int answer, int hate) {
+        OnlyTwoEnemies x = told("k000;k000;");
+        fed(x, times(15, "h0102;") + last);
+        due(x.count(5), 96);
+        due(x.feed(';'), -6);
+        due(x.land(), answer);
+        due(x.hate(0, 1), hate);
     }
 
     private static void semicolonBehindEach() {
