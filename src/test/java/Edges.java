@@ -6,8 +6,10 @@ abstract class Edges {
     static final int MIN = Integer.MIN_VALUE;
     static final int MAX = Integer.MAX_VALUE;
     static final long LONG = 4000000000000000000L;
+    /** Where words ahead of the Terms stand. */
+    static final int WHOLE = -1;
 
-    /** A sentence of the document: the promise that it stands in (0 in the Terms, in II, III or IV), and its words. */
+    /** A sentence of the document: the promise that it stands in (0 in the Terms, II, III or IV; WHOLE), and its words. */
     static final class Quote {
         final int promise;
         final String words;
@@ -27,7 +29,7 @@ abstract class Edges {
         by(0, words);
     }
 
-    /** What is tested from here on goes by these words of a promise. */
+    /** What is tested from here on goes by these words of a promise, or of the WHOLE. */
     static void by(int promise, String words) {
         quote = new Quote(promise, words);
         QUOTES.add(quote);
@@ -47,8 +49,11 @@ abstract class Edges {
 
     static void fault(String what) {
         wrong++;
-        String where = quote.promise == 0 ? "the Terms" : "promise " + quote.promise;
-        System.out.println(place() + ": " + what + "  [" + where + ": " + quote.words + "]");
+        System.out.println(place() + ": " + what + "  [" + section(quote.promise) + ": " + quote.words + "]");
+    }
+
+    private static String section(int promise) {
+        return promise == WHOLE ? "What it is" : promise == 0 ? "the Terms" : "promise " + promise;
     }
 
     private static String place() {

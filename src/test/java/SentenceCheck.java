@@ -15,6 +15,7 @@ public final class SentenceCheck {
     public static void main(String[] args) throws Exception {
         Path doc = Path.of(args.length > 0 ? args[0] : "../shared/DOC.md");
         Map<Integer, String> sections = sections(Files.readString(doc, StandardCharsets.UTF_8));
+        StoryTest.all();
         TermsEdgeTest.all();
         LandEdgeTest.all();
         MindEdgeTest.all();
@@ -25,16 +26,17 @@ public final class SentenceCheck {
         for (Edges.Quote quote : Edges.QUOTES) {
             mark(quote, sections, told);
         }
-        for (int promise = 0; promise <= 48; promise++) {
+        for (int promise = Edges.WHOLE; promise <= 48; promise++) {
             String text = sections.getOrDefault(promise, "");
             tellWhatLacks(promise, text, told.getOrDefault(promise, new boolean[text.length()]));
         }
         System.out.println(missing == 0 ? "each sentence has a test" : missing + " places are without a test");
     }
 
-    /** The Terms, II, III and IV as 0, and the text of each promise behind its signature. */
+    /** What it is, the Terms, II, III and IV as 0, and the text of each promise behind its signature. */
     private static Map<Integer, String> sections(String doc) {
         Map<Integer, String> sections = new HashMap<>();
+        sections.put(Edges.WHOLE, plain(doc.substring(doc.indexOf("## What it is") + 13, doc.indexOf("## The public face"))));
         String all = doc.substring(doc.indexOf("## Terms") + 8, doc.indexOf("## Not promised"));
         String[] parts = all.split("## Promise ");
         sections.put(0, plain(parts[0].replace("```text", "").replace("```", "")));
